@@ -25,6 +25,9 @@ public final class DoorCodes {
     private static final int NO_PARTS = 100 * ONE_PART;
     // One door of difference outweighs all walks.
     private static final int ONE_DOOR = 100000;
+    private static final int NO_HALVES = 20000 * ONE_DOOR;
+    // Above the harm of four words of which each is always read as each other.
+    private static final int NO_WORDS = 1000000;
 
     private static final int ASK_NOT_RIGHT = -100000;
     private static final int ASK_BAD = -1000000;
@@ -368,7 +371,7 @@ public final class DoorCodes {
         int lowest = code & -code;
         int others = code ^ lowest;
         int best = 0;
-        int bestKey = Integer.MAX_VALUE;
+        int bestKey = NO_HALVES;
         // Downwards, so that of equal ones the least bits come last and stay.
         for (int more = others; more >= 0; more--) {
             more = more & others;
@@ -1042,7 +1045,7 @@ public final class DoorCodes {
                 codeCount = Math.min(shaper.count, CODES_GIVEN);
                 gatherCandidates(letterCount);
                 compareAll();
-                leastHarm = Integer.MAX_VALUE;
+                leastHarm = NO_WORDS;
                 choose(0, 0);
                 dayFound = day;
                 lettersFound = letterCount;
