@@ -70,6 +70,7 @@ public final class PromisesTest {
         promise30();
         promises31and32();
         promise33();
+        noCallThrows();
         System.out.println(wrong == 0 ? "all promises hold" : wrong + " answers are not as due");
         if (wrong != 0) {
             System.exit(1);
@@ -321,6 +322,10 @@ public final class PromisesTest {
         due("12: as it was", x.rule(0, 0), 7);
         due("11: asking changes nothing", x.fault(), 10);
         due("11: asking changes nothing", x.count(3), 2);
+        x.wipe();
+        write(x, "m0,0;");
+        due("12: a fault at once", x.force(), NO);
+        due("12: as it was", x.rule(1, 0), 3);
         StringBuilder many = new StringBuilder();
         for (int i = 0; i < 40; i++) {
             many.append("n0,1;");
@@ -345,6 +350,10 @@ public final class PromisesTest {
         due("14: y", x.why(1, 10), 2);
         due("13: o", x.rule(2, 14599), 8);
         due("14: o", x.why(2, 14600), 4);
+        due("14: the first item", x.why(0, 100), 1);
+        force(x, "y3,7;");
+        due("14: the first item", x.why(1, 7), 0);
+        due("14: the day before", x.why(1, 6), NONE);
         int[][] bad = {{-1, 0}, {3, 0}, {0, -1}, {0, 14601}};
         for (int[] b : bad) {
             due("13: bad", x.rule(b[0], b[1]), BAD);
@@ -371,6 +380,10 @@ public final class PromisesTest {
         due("15: u and s", quarrelOf("n0,1;u3,4;s3,4;"), 102);
         due("15: n and n", quarrelOf("n0,1;n1,0;s0,1;s1,0;u2,3;u2,3;"), NONE);
         due("15: n and s", quarrelOf("n0,1;s0,1;"), NONE);
+        due("15: s and n", quarrelOf("s0,1;n0,1;"), NONE);
+        due("15: n and u", quarrelOf("n0,1;u0,1;"), NONE);
+        due("15: u and n", quarrelOf("u0,1;n0,1;"), NONE);
+        due("15: the last pair", quarrelOf("n0,1;n0,1;n0,1;o1,1;o2,1;"), 304);
         DoorCodes x = new DoorCodes();
         force(x, "m5,0;m6,0;");
         x.wipe();
@@ -391,6 +404,9 @@ public final class PromisesTest {
         due("16: above by itself", x.misread(0, 2, 2), NO);
         due("16: as it was", x.misread(0, 2, 1), 1);
         due("16: less", x.misread(0, 1, 40), 99);
+        due("16: to nothing", x.misread(5, 0, 7), 0);
+        due("16: to nothing", x.misread(5, 0, 0), 7);
+        due("16: is nothing", x.misread(5, 0, 0), 0);
         due("17: itself", x.read(0, 0), 59 * 59);
         due("17: half", x.read(0, 6), 40 * 59);
         due("17: first and second", x.read(1, 13), 100);
@@ -439,6 +455,14 @@ public final class PromisesTest {
         due("18: four", y.words(0, 2, 3), 7);
         y.misread(0, 1, 10);
         due("18: once, not linked", y.words(0, 2, -1), 2 * 900 + 2 * 1000 + 100);
+        y.link(3, 0, 1);
+        force(y, "s0,3;");
+        // 01 and 10 are never read as each other, so they go to the linked ones.
+        due("18: as much harm", y.words(0, 2, -1), 3900);
+        int[] linked = {1, 0, 7, 6};
+        for (int i = 0; i < 4; i++) {
+            due("18: the word of shape " + i, y.words(0, 2, i), linked[i]);
+        }
         y.side(10, 0, 1, 1);
         due("18: five", y.words(0, 4, 0), NO);
     }
@@ -462,6 +486,18 @@ public final class PromisesTest {
         due("19: only one", x.who(6, -1), 1);
         due("19: itself", x.who(6, 0), 6);
         due("19: none by 0", x.who(0, -1), 0);
+        force(x, "");
+        x.give(0, 2);
+        // Now they are words 0, 1 and 6.
+        due("19: word 0 too", x.who(7, -1), 3);
+        due("19: word 0 last", x.who(7, 2), 0);
+        x.misread(1, 0, 50);
+        due("19: of three alike the lowest", x.who(7, 0), 0);
+        due("19: of three alike the lowest", x.who(7, 2), 6);
+        x.misread(0, 1, 1);
+        x.misread(1, 0, 99);
+        due("19: by 1 of 10000", x.who(7, -1), 3);
+        due("19: by 1 of 10000", x.who(7, 1), 1);
         due("19: i", x.who(0, -2), BAD);
         due("19: word", x.who(-1, 0), BAD);
         due("19: word", x.who(36, -1), BAD);
@@ -535,6 +571,53 @@ public final class PromisesTest {
         y.give(0, 2);
         due("21: by doors", y.split(2, 0), 1);
         due("21: by doors", y.code(0, 1), 1);
+        DoorCodes t = new DoorCodes();
+        for (int i = 0; i < 4; i++) {
+            t.side(10, 0, 1, 1);
+        }
+        t.link(0, 1, 3);
+        t.link(2, 3, 3);
+        t.link(1, 3, 1);
+        t.link(0, 2, 1);
+        t.give(0, 2);
+        due("21: by walks", t.split(1, 0), 1);
+        due("21: by walks", t.code(0, 1), 5);
+        DoorCodes v = new DoorCodes();
+        for (int i = 0; i < 4; i++) {
+            v.side(10, 0, 1, 1);
+            for (int j = 0; j < i; j++) {
+                v.link(i, j, 3);
+            }
+        }
+        v.give(0, 2);
+        due("21: by bits", v.split(1, 0), 1);
+        due("21: by bits", v.code(0, 1), 3);
+        DoorCodes w = new DoorCodes();
+        w.side(10, 0, 1, 1);
+        w.side(10, 0, 1, 1);
+        w.side(11, 0, 1, 1);
+        w.link(0, 1, 1);
+        w.link(1, 2, 400);
+        w.link(0, 2, 500);
+        w.give(0, 2);
+        due("21: doors ahead of walks", w.split(0, 0), 1);
+        due("21: doors ahead of walks", w.code(0, 1), 3);
+        w = new DoorCodes();
+        w.side(10, 0, 1, 1);
+        w.side(10, 0, 1, 1);
+        w.side(12, 0, 1, 1);
+        w.link(0, 1, 500);
+        w.link(1, 2, 1);
+        w.link(0, 2, 1);
+        w.give(0, 2);
+        due("21: doors far ahead of walks", w.split(0, 0), 1);
+        due("21: doors far ahead of walks", w.code(0, 1), 3);
+        v.pass(0, 2, 0);
+        v.pass(1, 2, 0);
+        due("21: word 0 leads on that day", v.split(1, 0), 2);
+        v.pass(2, 0, 1);
+        v.pass(3, 0, 1);
+        due("21: word 0 is free a day later", v.split(1, 2), 0);
         DoorCodes z = chain(2);
         StringBuilder all = new StringBuilder();
         for (int a = 0; a < 6; a++) {
@@ -649,6 +732,8 @@ public final class PromisesTest {
         due("26: b", x.rounds(0, 1000001, 0), BAD);
         due("26: what", x.rounds(0, 6, 2), BAD);
         due("26: what", x.rounds(0, 6, -1), BAD);
+        due("26: the least b", x.rounds(0, 1, 0), NO);
+        due("26: the greatest b", x.rounds(0, 1000000, 1), NO);
         for (int i = 1; i < 5; i++) {
             x.link(i - 1, i, 1);
         }
@@ -733,6 +818,11 @@ public final class PromisesTest {
         due("30: until then", x.wrong(0, 55), 0);
         due("30: no more", x.wrong(0, 56), 14);
         due("30: ahead", x.wrong(0, 4), NO);
+        due("30: on the latest day", x.wrong(0, 5), 0);
+        force(x, "m200,0;");
+        x.pass(0, 1, 60);
+        due("30: side 0 by its old word that day", x.wrong(0, 60), 0);
+        due("30: all", x.wrong(0, 61), 15);
         due("30: edition", x.wrong(1, 4), BAD);
         due("30: edition", x.wrong(-1, 5), BAD);
         due("30: day", x.wrong(0, 14601), BAD);
@@ -805,5 +895,68 @@ public final class PromisesTest {
         due("33: still", x.count(5), 1);
         x.give(14, 2);
         due("33: no more", x.count(5), 0);
+        force(x, "o10,0;m200,0;n0,0;");
+        x.give(14, 2);
+        due("33: word 0 leads on", x.count(5), 1);
+    }
+
+    /** Whatever the numbers are, in a new object, in one with sides, and in one with codes. */
+    private static void noCallThrows() {
+        int[] odd = {Integer.MIN_VALUE, -1000000, -5, -4, -3, -2, -1, 0, 1, 2, 8, 9, 35, 36, 511, 512, 14600, 14601,
+            1000001, Integer.MAX_VALUE};
+        for (int state = 0; state < 3; state++) {
+            for (int a : odd) {
+                for (int b : odd) {
+                    for (int c : odd) {
+                        callAll(inState(state), a, b, c);
+                    }
+                }
+            }
+        }
+    }
+
+    private static DoorCodes inState(int state) {
+        DoorCodes x = state == 0 ? new DoorCodes() : chain(3);
+        if (state == 2) {
+            x.give(0, 2);
+            x.edition();
+            x.keep();
+        }
+        return x;
+    }
+
+    private static void callAll(DoorCodes x, int a, int b, int c) {
+        x.doors(a, b);
+        x.walk(a);
+        x.row(a, b);
+        x.right(a, b);
+        x.shaped(a, b);
+        x.rule(a, b);
+        x.why(a, b);
+        x.read(a, b);
+        x.words(a, b, c);
+        x.who(a, b);
+        x.code(a, b);
+        x.lead(a, b);
+        x.rounds(a, b, c);
+        x.fullYear(a, b);
+        x.book(a, b);
+        x.wrong(a, b);
+        x.count(a);
+        x.ask(a, b, c);
+        x.misread(a, b, c);
+        x.link(a, b, c);
+        x.side(a, b, c, a);
+        x.write(a, (long) b << 32 | c);
+        x.fault();
+        x.force();
+        x.quarrel();
+        x.pass(a, b, c);
+        x.split(a, b);
+        x.give(a, b);
+        x.edition();
+        x.keep();
+        x.back();
+        x.wipe();
     }
 }
