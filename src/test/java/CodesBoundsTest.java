@@ -11,10 +11,12 @@ public final class CodesBoundsTest {
         giveNotShaped();
         giveTooFewWords();
         giveAgain();
+        giveFewerThanAsked();
         splitNumbers();
         splitRefused();
         splitNotRight();
         splitHalves();
+        splitWithGaps();
         splitWords();
         splitWordsThatLead();
         askNumbers();
@@ -118,6 +120,21 @@ public final class CodesBoundsTest {
         c.due("20: no longer", x.lead(0, 9), NONE);
         c.due("20: one that is had and leads on", x.lead(1, 8), 3);
         c.due("20: one that is had", x.lead(1, 9), 1);
+    }
+
+    /** Words for four codes were asked for before; what is given is what is shaped on the day. */
+    private static void giveFewerThanAsked() {
+        DoorCodes x = Checks.made(Checks.ruled(Checks.chain(4), "m30,0;m60,5;m200,6;"));
+        c.due("18: four", x.words(0, 2, 3), 7);
+        c.due("20: two", x.give(5, 2), 2);
+        c.due("20: two", x.code(0, 1), 3);
+        c.due("20: two", x.code(3, 1), 12);
+        c.due("20: two", x.count(4), 2);
+        c.due("18: four", x.words(0, 2, 2), 6);
+        c.due("20: one", x.give(6, 2), 1);
+        c.due("20: one", x.code(3, 1), 15);
+        c.due("20: one", x.code(3, 0), 0);
+        c.due("20: one", x.count(4), 1);
     }
 
     // ---- promise 21
@@ -234,6 +251,26 @@ public final class CodesBoundsTest {
         c.due("21: the lower keeps its word", x.code(0, 0), 0);
         c.due("21: the upper gets one", x.code(1, 0), 1);
         halves(one(4, "o0,0;m270,0;"), 6, 3, 12);
+    }
+
+    /** Side 1 stands between the sides of the code in number and in walk, and yet it is not in it. */
+    private static void splitWithGaps() {
+        DoorCodes x = Checks.made(Checks.ruled(y -> {
+            for (int i = 0; i < 4; i++) {
+                y.side(30, 0, 10, 1);
+                for (int j = 0; j < i; j++) {
+                    y.link(i, j, i == 1 || j == 1 ? 1 : 500);
+                }
+            }
+        }, "s0,1;s1,2;s1,3;m270,0;"));
+        x.give(0, 2);
+        c.due("21: a code with a gap", x.code(0, 1), 13);
+        Checks.force(x, "m270,0;");
+        c.due("21: a third word", x.split(3, 0), 2);
+        c.due("21: least bits", x.code(0, 1), 1);
+        c.due("21: the rest", x.code(2, 1), 12);
+        c.due("21: the side between is as it was", x.code(1, 1), 2);
+        c.due("21: the side between is as it was", x.code(1, 0), 1);
     }
 
     /** Every word but those of two equal letters among the last ones is taken away. */

@@ -14,6 +14,7 @@ public final class RulesBoundsTest {
         faultOfFigures();
         faultOfSigns();
         faultPlaces();
+        faultBehindTheEnd();
         forceEmptyAndFull();
         forceRefused();
         ruleNumbers();
@@ -163,7 +164,7 @@ public final class RulesBoundsTest {
     }
 
     private static void faultOfSigns() {
-        String[] faulty = {"m", "m1", "m1,", "m1,0", ";", ",", "1", "m1;", "m1;0;", "m1,0,", "m1,0,0;", "m1,,0;", "m;",
+        String[] faulty = {"m", "m1", "m1,", "m1,0", ";", ",", "1", "m1;", "m1;0;", "m1,x5;", "m1,:5;", "mx1,0;", "m:1,0;", "m1x,0;", "m1,0x;", "m1,0,", "m1,0,0;", "m1,,0;", "m;",
             "mm1,0;", "m-1,0;", "m+1,0;", "m1,-0;", "M1,0;", "Y1,0;", "a1,0;", "l1,0;", "x1,0;", "z1,0;", "11,0;",
             " m1,0;", "m 1,0;", "m1 ,0;", "m1, 0;", "m1,0 ;", "m1.0;", "m1:0;", "m1/0;", "m1,0:", "m:,0;", "m/,0;",
             "\0", "m1,0\n", "m1,0" + (char) 187, (char) 237 + "1,0;", "m" + (char) 177 + ",0;"};
@@ -188,6 +189,22 @@ public final class RulesBoundsTest {
         faulty(Checks.times(38, "n0,1;") + "m1,14600;" + "m", 199);
         fine(Checks.times(38, "n0,1;") + "m01,14600;");
         c.same("11: asking changes nothing", Checks::rich, x -> x.fault());
+    }
+
+    /** What stood behind the end before is no part of THE TEXT, and nothing stands behind 200 bytes. */
+    private static void faultBehindTheEnd() {
+        Checks.State again = Checks.with(text("m1,0;y1,0;"), x -> x.wipe());
+        c.due("11: no ;", Checks.with(again, text("m1,0")), x -> x.fault(), 0);
+        c.due("11: no numbers", Checks.with(again, text("m")), x -> x.fault(), 0);
+        c.due("11: no comma", Checks.with(again, text("m1")), x -> x.fault(), 0);
+        c.due("11: no second item", Checks.with(again, text("m1,0;")), x -> x.force(), 1);
+        c.due("11: empty again", again, x -> x.fault(), NONE);
+        String most = Checks.times(39, "n0,1;");
+        faulty(most + "m1,00", 195);
+        faulty(most + "m1234", 195);
+        faulty(most + "m123,", 195);
+        faulty(most + "mmmmm", 195);
+        faulty(Checks.times(200, "1"), 0);
     }
 
     // ---- promise 12
@@ -349,7 +366,12 @@ public final class RulesBoundsTest {
         quarrel("s0,1;u2,3;", NONE);
         quarrel("n0,1;s0,1;", NONE);
         quarrel("u0,1;n0,1;", NONE);
+        quarrel("s0,1;n0,1;", NONE);
+        quarrel("n0,1;u0,1;", NONE);
         quarrel("m1,0;s1,0;", NONE);
+        quarrel("s1,0;m1,0;", NONE);
+        quarrel("m1,0;u1,0;", NONE);
+        quarrel("u1,0;m1,0;", NONE);
     }
 
     private static void quarrelFirst() {

@@ -7,6 +7,7 @@ public final class SidesBoundsTest {
     public static void main(String[] args) {
         newObject();
         objectsApart();
+        lastCall();
         sideNumbers();
         sideFull();
         sideGiven();
@@ -19,6 +20,8 @@ public final class SidesBoundsTest {
         walks();
         rowPlaces();
         rowFirst();
+        rowLinked();
+        walksAsked();
         rightNumbers();
         rightByDoors();
         rightByYears();
@@ -28,6 +31,7 @@ public final class SidesBoundsTest {
         shapedFewest();
         shapedTies();
         shapedBar();
+        shapedAsked();
         c.end("sides");
     }
 
@@ -72,6 +76,22 @@ public final class SidesBoundsTest {
         c.due("1: another object", y.count(2), 0);
         c.due("1: another object", y.rule(0, 0), 100);
         c.due("1: another object", y.back(), NO);
+    }
+
+    /** An object is used for at most 512 calls, and all of them are as told. */
+    private static void lastCall() {
+        DoorCodes x = Checks.made(Checks.chain(9));
+        int calls = 9 + 8;
+        x.give(0, 2);
+        calls++;
+        while (calls < 508) {
+            c.due("1: call " + calls, x.give(calls, 2), 3);
+            calls++;
+        }
+        c.due("1: call 509", x.count(8), 507);
+        c.due("1: call 510", x.edition(), 0);
+        c.due("1: call 511", x.split(8, 507), 2);
+        c.due("1: call 512", x.code(8, 1), 256 + 128);
     }
 
     // ---- promise 2
@@ -319,6 +339,46 @@ public final class SidesBoundsTest {
         rowOf(x, 15, 1, 2, 0, 3);
     }
 
+    private static void rowLinked() {
+        DoorCodes near = Checks.made(Checks.apart(3));
+        near.link(0, 2, 1);
+        near.link(1, 2, 1);
+        rowOf(near, 7, 0, 2, 1);
+        // What is left would be as long from 1 on as it is by way of 3, and yet 0 and 1 have no link.
+        DoorCodes x = Checks.made(Checks.apart(4));
+        x.link(0, 3, 4);
+        x.link(3, 1, 1);
+        x.link(1, 2, 1);
+        x.link(3, 2, 5);
+        c.due("5: the least", x.walk(15), 10);
+        rowOf(x, 15, 0, 3, 1, 2);
+        // The same with 0 and 1 named the other way about.
+        DoorCodes y = Checks.made(Checks.apart(4));
+        y.link(1, 3, 4);
+        y.link(3, 0, 1);
+        y.link(0, 2, 1);
+        y.link(3, 2, 5);
+        c.due("5: the least", y.walk(15), 10);
+        rowOf(y, 15, 1, 3, 0, 2);
+    }
+
+    /** What was asked once is not the answer for good. */
+    private static void walksAsked() {
+        DoorCodes x = Checks.made(Checks.apart(2));
+        c.due("5: no link", x.walk(3), NONE);
+        x.link(0, 1, 7);
+        c.due("5: a link", x.walk(3), 9);
+        c.due("2: a side more", x.side(1, 0, 40, 1), 2);
+        c.due("5: of the new side", x.walk(4), 40);
+        c.due("5: not linked yet", x.walk(7), NONE);
+        x.link(1, 2, 3);
+        c.due("5: linked", x.walk(7), 52);
+        c.due("6: linked", x.row(7, 2), 2);
+        x.link(0, 1, 0);
+        c.due("5: linked no more", x.walk(7), NONE);
+        c.due("6: linked no more", x.row(7, 2), NONE);
+    }
+
     // ---- promise 7
 
     private static void rightNumbers() {
@@ -524,5 +584,30 @@ public final class SidesBoundsTest {
         c.due("8: the other pair", middle, x -> x.right(0b11100, 0), 1);
         c.due("8: not shaped", middle, x -> x.shaped(0, -1), NONE);
         c.due("8: each is in a right shape", middle, x -> x.shaped(0, -3), NONE);
+    }
+
+    /** What was asked once is not the answer for good, nor that of another day. */
+    private static void shapedAsked() {
+        DoorCodes x = new DoorCodes();
+        c.due("8: without sides", x.shaped(0, -1), NONE);
+        x.side(60, 1, 1, 1);
+        c.due("8: a side", x.shaped(0, -1), 1);
+        x.side(40, 0, 1, 1);
+        c.due("8: another side", x.shaped(0, -1), 2);
+        x.link(0, 1, 9);
+        c.due("8: a link", x.shaped(0, -1), 1);
+        c.due("8: a link", x.shaped(0, -2), 11);
+        c.due("8: another day", x.shaped(365, -1), 2);
+        c.due("8: the first day again", x.shaped(0, -1), 1);
+        x.link(0, 1, 8);
+        c.due("8: another walk", x.shaped(0, -2), 10);
+        Checks.force(x, "m99,0;");
+        c.due("8: another rule", x.shaped(0, -1), 2);
+        Checks.force(x, "m59,0;");
+        c.due("8: another rule", x.shaped(0, -3), 0);
+        Checks.force(x, "m59,1;");
+        c.due("8: another rule", x.shaped(0, -1), 1);
+        x.wipe();
+        c.due("8: wiped, and in force yet", x.shaped(1, -1), NONE);
     }
 }

@@ -17,6 +17,8 @@ public final class WordsBoundsTest {
         wordsByN();
         harmOnceOrThrice();
         harmFirstThenLower();
+        harmOfTheLastWord();
+        wordsAsked();
         whoNumbers();
         whoEmpty();
         whoByRead();
@@ -246,6 +248,47 @@ public final class WordsBoundsTest {
             int n = i;
             c.due("18: the lowest words", none, x -> x.words(0, 2, n), lowest[n]);
         }
+    }
+
+    private static void harmOfTheLastWord() {
+        // Letters 0, 1 and 2 are read as each other and 3 is not, so by n its one word is 33.
+        Checks.State two = Checks.with(Checks.ruled(Checks.apart(2), "n0,3;n1,3;n2,3;"), x -> {
+            for (int a = 0; a < 3; a++) {
+                for (int b = 0; b < 3; b++) {
+                    if (a != b) {
+                        x.misread(a, b, 10);
+                    }
+                }
+            }
+        });
+        c.due("18: some harm below 3", two, x -> x.words(0, 3, -1), 200);
+        c.due("18: none below 4", two, x -> x.words(0, 4, -1), 0);
+        c.due("18: the lower one for shape 0", two, x -> x.words(0, 4, 0), 0);
+        c.due("18: the last word of all for shape 1", two, x -> x.words(0, 4, 1), 21);
+    }
+
+    /** What was asked once is not the answer for good, nor that of another day or other letters. */
+    private static void wordsAsked() {
+        DoorCodes x = Checks.made(Checks.apart(2));
+        c.due("18: nothing misread", x.words(0, 2, 1), 1);
+        x.misread(0, 1, 9);
+        c.due("18: misread", x.words(0, 2, 1), 6);
+        c.due("18: other letters", x.words(0, 3, 1), 2);
+        c.due("18: these letters again", x.words(0, 2, 1), 6);
+        Checks.force(x, "n0,0;n1,0;");
+        c.due("18: other rules", x.words(0, 2, 1), NONE);
+        c.due("18: other rules, other letters", x.words(0, 3, 1), 7);
+        Checks.force(x, "n0,0;n1,0;u0,8;");
+        c.due("18: not shaped", x.words(0, 3, 1), NO);
+        Checks.force(x, "");
+        x.link(0, 1, 5);
+        c.due("18: one code", x.words(0, 2, 1), NONE);
+        Checks.force(x, "m1,0;m9,5;n1,0;");
+        c.due("18: two linked codes", x.words(0, 2, -1), 3 * 81);
+        c.due("18: one code on another day", x.words(5, 2, -1), 0);
+        c.due("18: two linked codes again", x.words(0, 2, -1), 3 * 81);
+        x.side(1, 0, 1, 1);
+        c.due("18: too few words now", x.words(0, 2, -1), NONE);
     }
 
     // ---- promise 19
