@@ -933,9 +933,16 @@ public final class DoorCodes {
         }
 
         private boolean isRight(int shape, int day) {
-            int later = day + YEAR * rules.valueOn(1, day);
+            return fits(shape, dayLookedAt(day), rules.valueOn(0, day));
+        }
+
+        private int dayLookedAt(int day) {
+            return day + YEAR * rules.valueOn(1, day);
+        }
+
+        private boolean fits(int shape, int later, int most) {
             return streets.leastWalk(shape) < NO_WALK
-                    && streets.doorsOf(shape, later) <= rules.valueOn(0, day)
+                    && streets.doorsOf(shape, later) <= most
                     && rules.allowsShape(shape);
         }
 
@@ -945,8 +952,10 @@ public final class DoorCodes {
                 return;
             }
             int all = streets.allSides();
+            int later = dayLookedAt(day);
+            int most = rules.valueOn(0, day);
             for (int set = 1; set <= all; set++) {
-                rights[set] = isRight(set, day);
+                rights[set] = fits(set, later, most);
                 findPart(set);
             }
             count = 0;
