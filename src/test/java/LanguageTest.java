@@ -92,6 +92,9 @@ public final class LanguageTest {
                     last++;
                 }
                 check(last - i <= 60, "too long: " + name);
+                String body = String.join(" ", lines.subList(i, Math.min(last + 1, lines.size())));
+                check(!Pattern.compile("\\b(new|clone|copyOf|copyOfRange)\\b").matcher(body).find(),
+                        "makes an object, where only constructors do: " + name);
             }
         }
     }
